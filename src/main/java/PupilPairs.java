@@ -257,7 +257,7 @@ public final class PupilPairs {
 
     public int deficit() throws IllegalStateException {
         needText();
-        return now.pupils.number - 2 * tableNow().pairs();
+        return tableNow().freePupils();
     }
 
     public int loose() throws IllegalStateException {
@@ -315,7 +315,8 @@ public final class PupilPairs {
     public boolean isProof(int set) throws IllegalStateException, IllegalArgumentException {
         needText();
         needSet(set);
-        return tableNow().proves(set);
+        MostTable most = tableNow();
+        return most.proves(set, most.freePupils());
     }
 
     public int smallestProof() throws IllegalStateException {
@@ -323,11 +324,12 @@ public final class PupilPairs {
         MostTable most = tableNow();
         // With MOST pairs each pupil of a proof has a mate in an odd part, so that none of them is LOOSE.
         int others = now.pupils.everybody() & ~most.looseSet();
+        int free = most.freePupils();
         int best = others;
         int fewest = MAX_PUPILS + 1;
         int set = 0;
         for (int i = 0; i < 1 << MAX_PUPILS && fewest > 0; i++) {
-            if (Integer.bitCount(set) < fewest && most.proves(set)) {
+            if (Integer.bitCount(set) < fewest && most.proves(set, free)) {
                 best = set;
                 fewest = Integer.bitCount(set);
             }
@@ -859,7 +861,8 @@ public final class PupilPairs {
         /** Turns the pairs along the way of p, so that p is free. */
         void turn(Ways ways, int p) {
             put(mates, p, NONE);
-            for (int i = 1; i + 1 < ways.lengthOf(p); i += 2) {
+            int length = ways.lengthOf(p);
+            for (int i = 1; i + 1 < length; i += 2) {
                 join(ways.pupilAt(p, i), ways.pupilAt(p, i + 1));
             }
         }
@@ -1230,6 +1233,11 @@ public final class PupilPairs {
             return mostIn(all);
         }
 
+        /** The pupils that stay free with MOST pairs. */
+        int freePupils() {
+            return Integer.bitCount(all) - 2 * pairs();
+        }
+
         /** MOST without two pupils, perhaps the same. */
         int pairsBut(int a, int b) {
             return mostIn(but(a, b));
@@ -1251,7 +1259,7 @@ public final class PupilPairs {
             if (set == 0 || depth > MAX_PUPILS) {
                 return 1;
             }
-            int place = isKept(set) ? set >> UNKEPT : NONE;
+            int place = (set & (1 << UNKEPT) - 1) == 0 ? set >> UNKEPT : NONE;
             if (place >= 0 && place < table.values.length && table.stamps[place] == table.stamp) {
                 return table.values[place];
             }
@@ -1269,16 +1277,12 @@ public final class PupilPairs {
             return value;
         }
 
-        private static boolean isKept(int set) {
-            return (set & (bit(UNKEPT) - 1)) == 0;
-        }
-
         /** The value of pairings of two sorts together. */
         private static int joined(int one, int other) {
             if (one / PAIR == other / PAIR) {
                 return one + other % PAIR;
             }
-            return Math.max(one, other);
+            return one > other ? one : other;
         }
 
         private int rowOf(int p) {
@@ -1286,9 +1290,10 @@ public final class PupilPairs {
         }
 
         int looseSet() {
+            int pairs = pairs();
             int loose = 0;
             for (int p = 0; p < MAX_PUPILS; p++) {
-                if (has(all, p) && pairsBut(p, p) == pairs()) {
+                if (has(all, p) && pairsBut(p, p) == pairs) {
                     loose |= bit(p);
                 }
             }
@@ -1317,8 +1322,9 @@ public final class PupilPairs {
             return partsOf(all & ~set, true);
         }
 
-        boolean proves(int set) {
-            return Integer.bitCount(all) + Integer.bitCount(set) - oddsWithout(set) == 2 * pairs();
+        /** Whether a set proves MOST, with which so many pupils stay free. */
+        boolean proves(int set, int free) {
+            return oddsWithout(set) - Integer.bitCount(set) == free;
         }
 
         /** The mate of the smallest pupil of the set in the FIRST pairing of the set. */

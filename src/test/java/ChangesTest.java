@@ -15,6 +15,7 @@ public final class ChangesTest {
         endsSearch();
         undo();
         undoBringsBackAll();
+        undoBringsBackSearch();
         saveAndRestore();
         noText();
         Check.finish();
@@ -228,6 +229,45 @@ public final class ChangesTest {
         Check.due("sums", x.count(7) + x.count(8) + x.count(9), 0);
         Check.due("pairs", Check.pairs(x), "1-2");
         Check.due("the input buffer stays", x.buffered(), 20);
+    }
+
+    /** All that is told of the search, and the sums. */
+    private static String toldOfSearch(PupilPairs x) {
+        StringBuilder told = new StringBuilder();
+        for (int what = 0; what <= 10; what++) {
+            told.append(x.count(what)).append(what <= 7 ? "/" + x.search(what) : "").append(' ');
+        }
+        for (int p = 0; p < x.count(0); p++) {
+            told.append(x.label(p)).append(' ').append(x.base(p)).append(' ').append(x.link(p)).append(' ');
+            told.append(x.bridge(p, false)).append(' ').append(x.bridge(p, true)).append(' ');
+            told.append(Check.way(x, p)).append(' ');
+        }
+        return told.append(Check.groups(x)).append(Check.queue(x)).append(' ').append(x.next()).toString();
+    }
+
+    private static void undoBringsBackSearch() {
+        PupilPairs x = Check.loaded("class 11 0;friend 0 1;friend 2 1 3 5;friend 4 3 6;friend 6 5 7;friend 8 7 9"
+            + ";friend 10 8;pair 1 2;pair 3 4;pair 5 6;pair 7 8");
+        x.seek(0);
+        for (int i = 0; i < 12; i++) {
+            x.step();
+        }
+        String before = toldOfSearch(x);
+        Check.due("there is a blossom, and a queue", x.blossoms() + " " + Check.queue(x), "1 6 3 5 8");
+        x.save(1);
+        x.seek(10);
+        x.run();
+        x.fill();
+        Check.due("another search", toldOfSearch(x).equals(before), false);
+        x.undo();
+        Check.due("the search from 10", x.search(1) + " " + x.search(0), "10 2");
+        x.undo();
+        x.undo();
+        Check.due("behind undo", toldOfSearch(x), before);
+        x.seek(9);
+        x.run();
+        x.restore(1);
+        Check.due("behind restore", toldOfSearch(x), before);
     }
 
     private static void saveAndRestore() {

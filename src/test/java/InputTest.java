@@ -61,6 +61,13 @@ public final class InputTest {
         Check.append(x, "class 7 0 rest that is not parsed");
         Check.due("load of a part", x.load(9), 7);
         Check.due("all of the buffer is gone", x.buffered(), 0);
+        Check.append(x, "class 7 02");
+        Check.due("load of a part of a number", x.load(9) + " " + x.count(5), "7 0");
+        Check.append(x, "class 5 0;kind 0;pair");
+        Check.dueThrows("load of a part of a word", Check.ARGUMENT, () -> x.load(20));
+        Check.due("the place of the word", x.errorPosition(), 17);
+        Check.append(x, "class 7 0");
+        x.load(20);
         Check.due("parseError 0", x.parseError(), 0);
         Check.due("errorPosition NONE", x.errorPosition(), -1);
     }
@@ -109,6 +116,8 @@ public final class InputTest {
         dueError("clas 3 0", 1, 0);
         dueError("3 0", 1, 0);
         dueError("classes 3 0", 1, 0);
+        dueError("classy 3 0", 1, 0);
+        dueError("glass 3 0", 1, 0);
         dueError("class", 1, 5);
         dueError("class ;", 1, 6);
         dueError("class 0 0", 2, 6);
@@ -136,6 +145,10 @@ public final class InputTest {
         dueError("class 5 0;kind 1-2", 1, 16);
         dueError("class 5 0;friends 0 1", 1, 10);
         dueError("class 5 0;frien 0 1", 1, 10);
+        dueError("class 5 0;kinds 0", 1, 10);
+        dueError("class 5 0;mind 0", 1, 10);
+        dueError("class 5 0;king 0 1 2", 1, 10);
+        dueError("class 5 0;fair 0 1", 1, 10);
         dueError("class 5 0;kind 001", 1, 15);
         dueError("class 5 0;kind 999", 1, 15);
         dueError("class 5 0;kind 01 00", 0, -1);

@@ -142,6 +142,9 @@ public final class MostTest {
         PupilPairs x = Check.loaded("class 8 0;friend 0 2 3 4;friend 1 4 5 6;friend 7 0 1");
         Check.due("most", x.most(), 2);
         Check.due("two are needed", x.smallestProof(), 3);
+        PupilPairs two = Check.loaded("class 6 0;friend 0 2;friend 1 5;friend 2 3 5;friend 4 5");
+        Check.due("2 proves, and so does 5", two.most() == 2 && two.isProof(4) && two.isProof(32), true);
+        Check.due("of both the smallest number", two.smallestProof(), 4);
         PupilPairs y = Check.loaded(TRIANGLE);
         Check.due("fewer than the barrier", y.smallestProof(), 0);
         Check.due("the barrier proves, too", y.isProof(y.barrier()), true);

@@ -5,29 +5,55 @@ import java.nio.charset.StandardCharsets;
 import java.util.ArrayList;
 import java.util.Comparator;
 import java.util.List;
-import java.util.Random;
 
 /** Random runs of calls, each asked of the program and of the Model: all answers and exceptions are the same. */
 public final class RandomRunsTest {
-    private static final int RUNS = Integer.getInteger("runs", 2500);
-    private static final List<String> CHANGES = List.of("seek", "step", "run", "fill", "pair", "part", "flip", "befriend",
-        "setKind", "setRule", "undo", "save", "restore");
+    private static final int RUNS = Integer.getInteger("runs", 1500);
+    private static final List<String> CHANGES = List.of("seek", "step", "run", "fill", "pair", "part", "flip",
+        "befriend", "setKind", "setRule", "undo", "save", "restore");
     private static final List<String> OF_SEARCHES = List.of("search", "label", "group", "base", "link", "bridge",
         "queueAt", "next", "wayLength", "wayAt", "blossoms", "writeGroups", "writeWay", "textByte", "wouldEnd",
         "stepsTo", "count", "pupil", "writePairs");
     private static final List<String> INPUTS = List.of("append", "load");
 
-    private final Random random;
+    private final Dice random;
     private final PupilPairs program = new PupilPairs();
     private final Model model = new Model();
     private final StringBuilder log = new StringBuilder();
     private int pupils = 5;
-    private int calls;
     /** Runs that ask of searches alone have more friends among many pupils: the Model need not list pairings there. */
     private final boolean onlySearches;
 
+    /** Numbers that look like chance and are the same each time. */
+    private static final class Dice {
+        private long state;
+
+        Dice(long seed) {
+            state = seed * 0x9e3779b97f4a7c15L + 1;
+            next();
+        }
+
+        int next() {
+            state = state * 6364136223846793005L + 1442695040888963407L;
+            long mixed = (state ^ state >>> 29) * 0xbf58476d1ce4e5b9L;
+            return (int) (mixed >>> 32);
+        }
+
+        int nextInt(int above) {
+            return Math.floorMod(next(), above);
+        }
+
+        boolean nextBoolean() {
+            return nextInt(2) == 0;
+        }
+
+        double nextDouble() {
+            return nextInt(1 << 20) / (double) (1 << 20);
+        }
+    }
+
     private RandomRunsTest(long seed) {
-        random = new Random(seed);
+        random = new Dice(seed);
         onlySearches = random.nextInt(3) == 0;
     }
 
@@ -77,6 +103,9 @@ public final class RandomRunsTest {
                 load();
             } else if (random.nextInt(10) < changeShare) {
                 change(changes);
+                if (onlySearches) {
+                    askAllOfSearch();
+                }
             } else {
                 ask(pick(asks));
             }
@@ -104,6 +133,35 @@ public final class RandomRunsTest {
         } else {
             ask(pick(changes));
         }
+    }
+
+    /** All that is told of the search. These are more calls of one object than 512; the program does not count. */
+    private void askAllOfSearch() throws Exception {
+        for (int what = 0; what <= 10; what++) {
+            ask("count", what);
+        }
+        for (int what = 0; what <= 7; what++) {
+            ask("search", what);
+        }
+        for (int p = 0; p < pupils; p++) {
+            for (String name : List.of("label", "group", "base", "link", "queueAt", "wayLength", "writeWay", "wouldEnd",
+                    "stepsTo")) {
+                ask(name, p);
+            }
+            for (boolean far : new boolean[] {false, true}) {
+                ask(PupilPairs.class.getMethod("bridge", int.class, boolean.class), p, far);
+            }
+            for (int i = 0; i < pupils; i++) {
+                ask(PupilPairs.class.getMethod("wayAt", int.class, int.class), p, i);
+            }
+        }
+        for (String name : List.of("next", "blossoms", "writeGroups", "writePairs")) {
+            ask(PupilPairs.class.getMethod(name));
+        }
+    }
+
+    private void ask(String name, int argument) throws Exception {
+        ask(PupilPairs.class.getMethod(name, int.class), argument);
     }
 
     private static Method named(List<Method> row, String name) {
@@ -203,7 +261,9 @@ public final class RandomRunsTest {
         for (int p = 0; p < n; p++) {
             order.add(p);
         }
-        java.util.Collections.shuffle(order, random);
+        for (int i = n - 1; i > 0; i--) {
+            java.util.Collections.swap(order, i, random.nextInt(i + 1));
+        }
         return order;
     }
 
@@ -271,7 +331,7 @@ public final class RandomRunsTest {
 
     private Object argument(String name, int i) {
         if (random.nextInt(200) == 0) {
-            return random.nextInt();
+            return random.next();
         }
         int above = switch (name) {
             case "count" -> 11;
@@ -294,10 +354,6 @@ public final class RandomRunsTest {
     }
 
     private void ask(Method method, Object... arguments) throws Exception {
-        if (calls >= 510) {
-            return;
-        }
-        calls++;
         log.append(method.getName()).append(java.util.Arrays.toString(arguments));
         String due = answer(Model.class.getMethod(method.getName(), method.getParameterTypes()), model, arguments);
         String got = answer(method, program, arguments);
