@@ -1,19 +1,23 @@
 /** Promises 52 to 65, and section 7. */
 public final class ChangesTest {
-    private static final String TEXT = "class 5 0;ring 0 1 2;friend 3 2 4;pair 1 2";
+    private static final String TEXT = Situations.SMALL;
 
     public static void main(String[] args) {
         seek();
+        seekAgain();
         stepAndRun();
         fill();
+        fillByRisingNumbers();
         pair();
         part();
         flip();
+        flipOfOthers();
         befriend();
         setKind();
         setRule();
         endsSearch();
         undo();
+        eightAndNine();
         undoBringsBackAll();
         undoBringsBackSearch();
         saveAndRestore();
@@ -33,6 +37,21 @@ public final class ChangesTest {
         Check.due("two changes", x.undoable(), 2);
         x.undo();
         Check.due("the search before", x.search(1), 1);
+    }
+
+    private static void seekAgain() {
+        PupilPairs x = Check.loaded(TEXT);
+        x.seek(0);
+        x.step();
+        x.step();
+        Check.due("from the same pupil", x.seek(0), 2);
+        Check.due("it begins anew", x.search(0) + " " + x.search(2) + " " + x.search(3) + " " + Check.groups(x),
+            "1 0 0 0o");
+        x.run();
+        Check.dueThrows("ROOT has a mate now", Check.ARGUMENT, () -> x.seek(0));
+        Check.due("the search that has found is still told", x.search(0), 2);
+        Check.due("one alone", Check.loaded("class 1 1").seek(0), 0);
+        Check.due("14 friends", Check.loaded(Situations.ALL_FRIENDS).seek(13), 13);
     }
 
     private static void stepAndRun() {
@@ -69,6 +88,19 @@ public final class ChangesTest {
         Check.due("it is a change", x.undoable(), 3);
         Check.due("one more failed", x.count(8), 2);
         Check.due("a pupil alone", Check.loaded("class 1 0").fill(), 0);
+    }
+
+    private static void fillByRisingNumbers() {
+        PupilPairs x = Check.loaded("class 6 0;friend 0 3;friend 1 3;friend 2 3 4;friend 4 5");
+        Check.due("fill", x.fill() + " " + Check.pairs(x), "2 0-3 2-4");
+        Check.due("1 and 5 failed", x.count(7) + " " + x.count(8), "2 2");
+        PupilPairs ring = Check.loaded("class 4 0;ring 0 1 2 3;pair 3 0");
+        Check.due("from those that are free alone", ring.fill() + " " + Check.pairs(ring), "2 0-3 1-2");
+        Check.due("one search", ring.count(7) + " " + ring.count(8), "1 0");
+        PupilPairs all = Check.loaded(Situations.ALL_FRIENDS);
+        Check.due("14 friends", all.fill() + " " + all.fill() + " " + all.count(7) + " " + all.count(8), "7 7 7 0");
+        PupilPairs none = Check.loaded("class 14 0");
+        Check.due("no friends", none.fill() + " " + none.count(7) + " " + none.count(8), "0 0 14");
     }
 
     private static void pair() {
@@ -125,6 +157,25 @@ public final class ChangesTest {
         y.seek(0);
         y.run();
         Check.dueThrows("a search that has found", Check.ARGUMENT, () -> y.flip(0));
+    }
+
+    /** A pupil that is out has no way; those of a search that goes on are turned, too. */
+    private static void flipOfOthers() {
+        PupilPairs x = Check.loaded(Situations.BLOSSOM);
+        x.seek(0);
+        for (int i = 0; i < 8; i++) {
+            x.step();
+        }
+        Check.dueThrows("an out pupil", Check.ARGUMENT, () -> x.flip(8));
+        Check.dueThrows("an inner pupil", Check.ARGUMENT, () -> x.flip(1));
+        Check.due("the search goes on", x.search(0) + " " + x.search(2), "1 8");
+        Check.due("through a BRIDGE", Check.way(x, 3) + " " + x.flip(3), "3>4>6>5>2>1>0 1");
+        Check.due("pairs behind", Check.pairs(x) + " " + x.pupil(3, 3), "0-1 2-5 4-6 7-8 -1");
+        Check.due("as many pairs as before", x.count(3) + " " + x.count(7) + " " + x.count(10), "4 0 0");
+        Check.dueThrows("no search any more", Check.ARGUMENT, () -> x.flip(3));
+        PupilPairs alone = Check.loaded("class 1 0");
+        alone.seek(0);
+        Check.due("one alone", alone.flip(0) + " " + alone.search(0) + " " + alone.undoable(), "-1 0 2");
     }
 
     private static void befriend() {
@@ -212,6 +263,34 @@ public final class ChangesTest {
         Check.due("a change behind undo", x.undoable(), 1);
         Check.due("undone", x.undo(), 0);
         Check.dueThrows("none is left", Check.STATE, x::undo);
+    }
+
+    /** Of eight changes each can be undone, of nine all but the first. */
+    private static void eightAndNine() {
+        for (int changes = 7; changes <= 10; changes++) {
+            PupilPairs x = Check.loaded("class 14 0");
+            for (int i = 0; i < changes; i++) {
+                x.setKind(i, 1);
+            }
+            int kept = Math.min(changes, 8);
+            Check.due("undoable behind " + changes, x.undoable(), kept);
+            for (int left = kept - 1; left >= 0; left--) {
+                Check.due("undo", x.undo() + " " + x.undoable(), left + " " + left);
+            }
+            Check.due("what is left of " + changes, x.count(6), changes - kept);
+            Check.dueThrows("one more", Check.STATE, x::undo);
+            Check.due("kinds", x.pupil(0, 0) + " " + x.pupil(1, 0), (changes > 8 ? 1 : 0) + " " + (changes > 9 ? 1 : 0));
+        }
+        PupilPairs y = Check.loaded("class 2 0");
+        Check.dueThrows("no change yet", Check.STATE, y::undo);
+        y.save(0);
+        y.setKind(0, 1);
+        y.restore(0);
+        Check.dueThrows("none since restore", Check.STATE, y::undo);
+        for (int i = 0; i < 9; i++) {
+            y.setKind(i % 2, 1 - i / 2 % 2);
+        }
+        Check.due("8 since restore", y.undoable(), 8);
     }
 
     private static void undoBringsBackAll() {

@@ -41,19 +41,24 @@ final class Check {
 
     /** Appends a text, with blanks up to twenty bytes, and tells the number of bytes in the buffer. */
     static int append(PupilPairs x, String text) {
-        byte[] bytes = text.getBytes(StandardCharsets.ISO_8859_1);
-        byte[] padded = Arrays.copyOf(bytes, (bytes.length + 19) / 20 * 20);
-        Arrays.fill(padded, bytes.length, padded.length, (byte) ' ');
         int length = x.buffered();
-        for (int i = 0; i < padded.length; i += 20) {
-            length = x.append(word(padded, i), word(padded, i + 4), word(padded, i + 8), word(padded, i + 12),
-                word(padded, i + 16));
+        int[] words = words(text);
+        for (int i = 0; i < words.length; i += 5) {
+            length = x.append(words[i], words[i + 1], words[i + 2], words[i + 3], words[i + 4]);
         }
         return length;
     }
 
-    private static int word(byte[] bytes, int i) {
-        return (bytes[i] & 255) << 24 | (bytes[i + 1] & 255) << 16 | (bytes[i + 2] & 255) << 8 | bytes[i + 3] & 255;
+    /** A text as append takes it: four bytes in each int, five of them a call, with blanks at the end. */
+    static int[] words(String text) {
+        byte[] bytes = text.getBytes(StandardCharsets.ISO_8859_1);
+        byte[] padded = Arrays.copyOf(bytes, (bytes.length + 19) / 20 * 20);
+        Arrays.fill(padded, bytes.length, padded.length, (byte) ' ');
+        int[] words = new int[padded.length / 4];
+        for (int i = 0; i < padded.length; i++) {
+            words[i / 4] = words[i / 4] << 8 | padded[i] & 255;
+        }
+        return words;
     }
 
     static PupilPairs loaded(String text) {
@@ -65,6 +70,20 @@ final class Check {
     static int load(PupilPairs x, String text) {
         append(x, text);
         return x.load(text.length());
+    }
+
+    /** The text has this error at this place, and none if the code is 0. */
+    static void dueError(String text, int code, int at) {
+        PupilPairs x = new PupilPairs();
+        append(x, text);
+        try {
+            x.load(text.length());
+            due("'" + text + "'", "loaded", code == 0 ? "loaded" : "error " + code);
+        } catch (IllegalArgumentException thrown) {
+            due("'" + text + "' has an error", code != 0, true);
+        }
+        due("parseError of '" + text + "'", x.parseError(), code);
+        due("errorPosition of '" + text + "'", x.errorPosition(), at);
     }
 
     /** The text that was written last. */

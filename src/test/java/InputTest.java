@@ -3,8 +3,13 @@ public final class InputTest {
     public static void main(String[] args) {
         newObject();
         appendAndBuffered();
+        placesOfBytes();
+        appendOfTooMany();
         loadAndItsExceptions();
+        loadOfNothing();
+        codesOfLatestLoad();
         loadReplaces();
+        loadForgetsKindsAndSums();
         headErrors();
         tokenErrors();
         lineErrors();
@@ -38,6 +43,70 @@ public final class InputTest {
         Check.due("load of the bytes in order", x.load(20), 3);
         Check.due("kinds", x.count(6), 2);
         Check.due("buffered behind load", x.buffered(), 0);
+    }
+
+    /** A byte that starts no token, among blanks, is found at its place; 0xe9 has the bit of the sign. */
+    private static void placesOfBytes() {
+        for (int place = 0; place < 20; place++) {
+            PupilPairs x = new PupilPairs();
+            int[] words = new int[5];
+            for (int i = 0; i < 20; i++) {
+                words[i / 4] = words[i / 4] << 8 | (i == place ? 0xe9 : 32);
+            }
+            x.append(words[0], words[1], words[2], words[3], words[4]);
+            Check.dueThrows("byte " + place, Check.ARGUMENT, () -> x.load(20));
+            Check.due("place of byte " + place, x.parseError() + " " + x.errorPosition(), "1 " + place);
+        }
+        PupilPairs y = new PupilPairs();
+        Check.append(y, "class 1 0");
+        Check.due("ints at both ends", y.append(Integer.MIN_VALUE, Integer.MAX_VALUE, 0, -1, 1), 40);
+        Check.dueThrows("their first byte", Check.ARGUMENT, () -> y.load(21));
+        Check.due("it starts no token", y.parseError() + " " + y.errorPosition(), "1 20");
+    }
+
+    /** Behind 480 bytes there is room for twenty more, behind 500 for none. */
+    private static void appendOfTooMany() {
+        PupilPairs x = new PupilPairs();
+        StringBuilder text = new StringBuilder("class 3 0");
+        while (text.length() < 480) {
+            text.append(' ');
+        }
+        Check.due("480 bytes", Check.append(x, text.toString()), 480);
+        Check.due("500 bytes", Check.append(x, ";kind 1 2"), 500);
+        Check.due("one block too many", Check.append(x, " 0"), -1);
+        Check.due("buffered", x.buffered(), 500);
+        Check.due("once more", x.append(-1, -1, -1, -1, -1), -1);
+        Check.due("nothing of it was appended", x.load(500) + " " + x.count(6), "3 2");
+        Check.due("there is room again", Check.append(x, "class 1 0"), 20);
+    }
+
+    private static void loadOfNothing() {
+        PupilPairs x = new PupilPairs();
+        Check.dueThrows("load(0) of an empty buffer", Check.ARGUMENT, () -> x.load(0));
+        Check.due("nothing is no class", x.parseError() + " " + x.errorPosition(), "1 0");
+        Check.append(x, "class 1 0");
+        Check.dueThrows("load(0)", Check.ARGUMENT, () -> x.load(0));
+        Check.due("the buffer is empty", x.buffered(), 0);
+        Check.dueThrows("no text was loaded", Check.STATE, () -> x.count(0));
+        Check.append(x, "class 1 0");
+        Check.due("the smallest class", x.load(9), 1);
+        Check.append(x, "class 14 0");
+        Check.due("the greatest class", x.load(10), 14);
+    }
+
+    private static void codesOfLatestLoad() {
+        PupilPairs x = new PupilPairs();
+        Check.dueThrows("an error", Check.ARGUMENT, () -> Check.load(x, "class 3 9"));
+        Check.due("its code", x.parseError() + " " + x.errorPosition(), "2 8");
+        Check.dueThrows("another error", Check.ARGUMENT, () -> Check.load(x, "class 3 0;pair 0 1"));
+        Check.due("the code of the latest load", x.parseError() + " " + x.errorPosition(), "5 17");
+        Check.append(x, "class 3 0");
+        Check.dueThrows("load(21)", Check.INDEX, () -> x.load(21));
+        Check.due("the code of the load before", x.parseError() + " " + x.errorPosition(), "5 17");
+        Check.due("load of all bytes", x.load(20), 3);
+        Check.due("no code", x.parseError() + " " + x.errorPosition(), "0 -1");
+        Check.dueThrows("load(1)", Check.INDEX, () -> x.load(1));
+        Check.due("still no code", x.parseError() + " " + x.errorPosition(), "0 -1");
     }
 
     private static void loadAndItsExceptions() {
@@ -96,106 +165,104 @@ public final class InputTest {
         Check.due("all are free", x.count(4), 14);
     }
 
-    /** The text has this error at this place, and none if the code is 0. */
-    private static void dueError(String text, int code, int at) {
-        PupilPairs x = new PupilPairs();
-        Check.append(x, text);
-        try {
-            x.load(text.length());
-            Check.due("'" + text + "'", "loaded", code == 0 ? "loaded" : "error " + code);
-        } catch (IllegalArgumentException thrown) {
-            Check.due("'" + text + "' has an error", code != 0, true);
-        }
-        Check.due("parseError of '" + text + "'", x.parseError(), code);
-        Check.due("errorPosition of '" + text + "'", x.errorPosition(), at);
+    private static void loadForgetsKindsAndSums() {
+        PupilPairs x = Check.loaded("class 5 1;kind 0 1 2 3 4;ring 0 1 2");
+        Check.due("another class", Check.load(x, "class 5 0;kind 4;ring 0 1 2;friend 3 2 4;pair 1 2"), 5);
+        Check.due("its kinds and RULE alone", x.count(6) + " " + x.pupil(0, 0) + " " + x.count(5), "1 0 0");
+        x.fill();
+        x.part(0);
+        Check.due("sums", x.count(7) + " " + x.count(8) + " " + x.count(9) + " " + x.count(10), "1 1 2 1");
+        Check.load(x, "class 5 0;friend 0 1");
+        Check.due("sums are 0", x.count(7) + " " + x.count(8) + " " + x.count(9) + " " + x.count(10), "0 0 0 0");
+        Check.due("its friends and pairs alone", x.count(1) + " " + Check.pairs(x), "1 .");
     }
 
     private static void headErrors() {
-        dueError("", 1, 0);
-        dueError("   ", 1, 3);
-        dueError("clas 3 0", 1, 0);
-        dueError("3 0", 1, 0);
-        dueError("classes 3 0", 1, 0);
-        dueError("classy 3 0", 1, 0);
-        dueError("glass 3 0", 1, 0);
-        dueError("class", 1, 5);
-        dueError("class ;", 1, 6);
-        dueError("class 0 0", 2, 6);
-        dueError("class 00 0", 2, 6);
-        dueError("class 15 0", 2, 6);
-        dueError("class 99 0", 2, 6);
-        dueError("class 014 0", 1, 6);
-        dueError("class 14 0", 0, -1);
-        dueError("class 01 02", 0, -1);
-        dueError("class 1 3", 2, 8);
-        dueError("class 1", 1, 7);
-        dueError("class 1 ", 1, 8);
-        dueError("class 1 pair", 1, 8);
-        dueError("class 5 0 1", 1, 10);
-        dueError("class 5 0 pair", 1, 10);
-        dueError("class5 0", 0, -1);
-        dueError("  class  5  0  ", 0, -1);
+        Check.dueError("", 1, 0);
+        Check.dueError("   ", 1, 3);
+        Check.dueError("clas 3 0", 1, 0);
+        Check.dueError("3 0", 1, 0);
+        Check.dueError("classes 3 0", 1, 0);
+        Check.dueError("classy 3 0", 1, 0);
+        Check.dueError("glass 3 0", 1, 0);
+        Check.dueError("class", 1, 5);
+        Check.dueError("class ;", 1, 6);
+        Check.dueError("class 0 0", 2, 6);
+        Check.dueError("class 00 0", 2, 6);
+        Check.dueError("class 15 0", 2, 6);
+        Check.dueError("class 99 0", 2, 6);
+        Check.dueError("class 014 0", 1, 6);
+        Check.dueError("class 14 0", 0, -1);
+        Check.dueError("class 01 02", 0, -1);
+        Check.dueError("class 1 3", 2, 8);
+        Check.dueError("class 1", 1, 7);
+        Check.dueError("class 1 ", 1, 8);
+        Check.dueError("class 1 pair", 1, 8);
+        Check.dueError("class 5 0 1", 1, 10);
+        Check.dueError("class 5 0 pair", 1, 10);
+        Check.dueError("class5 0", 0, -1);
+        Check.dueError("  class  5  0  ", 0, -1);
     }
 
     private static void tokenErrors() {
-        dueError("Class 5 0", 1, 0);
-        dueError("classX5 0", 1, 5);
-        dueError("class 5 0\u00e9", 1, 9);
-        dueError("class 5 0\n", 1, 9);
-        dueError("class 5 0;kind 1-2", 1, 16);
-        dueError("class 5 0;friends 0 1", 1, 10);
-        dueError("class 5 0;frien 0 1", 1, 10);
-        dueError("class 5 0;kinds 0", 1, 10);
-        dueError("class 5 0;mind 0", 1, 10);
-        dueError("class 5 0;king 0 1 2", 1, 10);
-        dueError("class 5 0;fair 0 1", 1, 10);
-        dueError("class 5 0;kind 001", 1, 15);
-        dueError("class 5 0;kind 999", 1, 15);
-        dueError("class 5 0;kind 01 00", 0, -1);
-        dueError("class 5 0;kind0 1;friend2 3", 0, -1);
-        dueError("class 5 0;kind 0kind", 1, 16);
+        Check.dueError("Class 5 0", 1, 0);
+        Check.dueError("classX5 0", 1, 5);
+        Check.dueError("class 5 0\u00e9", 1, 9);
+        Check.dueError("class 5 0\n", 1, 9);
+        Check.dueError("class 5 0;kind 1-2", 1, 16);
+        Check.dueError("class 5 0;friends 0 1", 1, 10);
+        Check.dueError("class 5 0;frien 0 1", 1, 10);
+        Check.dueError("class 5 0;kinds 0", 1, 10);
+        Check.dueError("class 5 0;mind 0", 1, 10);
+        Check.dueError("class 5 0;king 0 1 2", 1, 10);
+        Check.dueError("class 5 0;fair 0 1", 1, 10);
+        Check.dueError("class 5 0;kind 001", 1, 15);
+        Check.dueError("class 5 0;kind 999", 1, 15);
+        Check.dueError("class 5 0;kind 01 00", 0, -1);
+        Check.dueError("class 5 0;kind0 1;friend2 3", 0, -1);
+        Check.dueError("class 5 0;kind 0kind", 1, 16);
     }
 
     private static void lineErrors() {
-        dueError("class 5 0;", 1, 10);
-        dueError("class 5 0; ;", 1, 11);
-        dueError("class 5 0;;kind 0", 1, 10);
-        dueError("class 5 0;class", 1, 10);
-        dueError("class 5 0;kind", 1, 14);
-        dueError("class 5 0;kind;kind 0", 1, 14);
-        dueError("class 5 0;kind 5", 2, 15);
-        dueError("class 5 0;kind 4 4 0", 0, -1);
-        dueError("class 5 0;friend 0", 1, 18);
-        dueError("class 5 0;friend 0;kind 1", 1, 18);
-        dueError("class 5 0;friend 0 0", 3, 19);
-        dueError("class 5 0;friend 0 1 0", 3, 21);
-        dueError("class 5 0;friend 0 5", 2, 19);
-        dueError("class 5 0;friend 5 5", 2, 17);
-        dueError("class 5 0;friend 0 1 1 2", 0, -1);
-        dueError("class 5 0;ring 0 1", 1, 18);
-        dueError("class 5 0;ring 0 1;kind 0", 1, 18);
-        dueError("class 5 0;ring 0 0 1", 3, 17);
-        dueError("class 5 0;ring 0 1 2 1", 3, 21);
-        dueError("class 5 0;ring 0 1 5", 2, 19);
-        dueError("class 5 0;ring 0 1 2 3 4", 0, -1);
+        Check.dueError("class 5 0;", 1, 10);
+        Check.dueError("class 5 0; ;", 1, 11);
+        Check.dueError("class 5 0;;kind 0", 1, 10);
+        Check.dueError("class 5 0;class", 1, 10);
+        Check.dueError("class 5 0;kind", 1, 14);
+        Check.dueError("class 5 0;kind;kind 0", 1, 14);
+        Check.dueError("class 5 0;kind 5", 2, 15);
+        Check.dueError("class 5 0;kind 4 4 0", 0, -1);
+        Check.dueError("class 5 0;friend 0", 1, 18);
+        Check.dueError("class 5 0;friend 0;kind 1", 1, 18);
+        Check.dueError("class 5 0;friend 0 0", 3, 19);
+        Check.dueError("class 5 0;friend 0 1 0", 3, 21);
+        Check.dueError("class 5 0;friend 0 5", 2, 19);
+        Check.dueError("class 5 0;friend 5 5", 2, 17);
+        Check.dueError("class 5 0;friend 0 1 1 2", 0, -1);
+        Check.dueError("class 5 0;ring 0 1", 1, 18);
+        Check.dueError("class 5 0;ring 0 1;kind 0", 1, 18);
+        Check.dueError("class 5 0;ring 0 0 1", 3, 17);
+        Check.dueError("class 5 0;ring 0 1 2 1", 3, 21);
+        Check.dueError("class 5 0;ring 0 1 5", 2, 19);
+        Check.dueError("class 5 0;ring 0 1 2 3 4", 0, -1);
     }
 
     private static void pairErrors() {
-        dueError("class 5 0;ring 0 1 2;pair 0", 1, 27);
-        dueError("class 5 0;ring 0 1 2;pair 0 1 2", 1, 30);
-        dueError("class 5 0;ring 0 1 2;pair 0 0", 3, 28);
-        dueError("class 5 0;ring 0 1 2;pair 5 0", 2, 26);
-        dueError("class 5 0;ring 0 1 2;pair 0 5", 2, 28);
-        dueError("class 5 0;ring 0 1 2;pair 0 3", 5, 28);
-        dueError("class 5 0;pair 0 1;friend 0 1", 5, 17);
-        dueError("class 5 0;ring 0 1 2;pair 0 1;pair 1 2", 4, 35);
-        dueError("class 5 0;ring 0 1 2;pair 0 1;pair 2 1", 4, 37);
-        dueError("class 5 0;ring 0 1 2;pair 0 1;pair 3 1", 4, 37);
-        dueError("class 5 0;ring 0 1 2;pair 0 1;pair 1 1", 4, 35);
-        dueError("class 5 1;ring 0 1 2;pair 0 1", 5, 28);
-        dueError("class 5 1;kind 0;ring 0 1 2;pair 0 1", 0, -1);
-        dueError("class 5 2;kind 0;ring 0 1 2;pair 0 1", 5, 35);
-        dueError("class 5 2;kind 0 1;ring 0 1 2;pair 0 1", 0, -1);
+        Check.dueError("class 5 0;ring 0 1 2;pair 0", 1, 27);
+        Check.dueError("class 5 0;ring 0 1 2;pair 0 1 2", 1, 30);
+        Check.dueError("class 5 0;ring 0 1 2;pair 0 0", 3, 28);
+        Check.dueError("class 5 0;ring 0 1 2;pair 5 0", 2, 26);
+        Check.dueError("class 5 0;ring 0 1 2;pair 0 5", 2, 28);
+        Check.dueError("class 5 0;ring 0 1 2;pair 0 3", 5, 28);
+        Check.dueError("class 5 0;pair 0 1;friend 0 1", 5, 17);
+        Check.dueError("class 5 0;ring 0 1 2;pair 0 1;pair 1 2", 4, 35);
+        Check.dueError("class 5 0;ring 0 1 2;pair 0 1;pair 2 1", 4, 37);
+        Check.dueError("class 5 0;ring 0 1 2;pair 0 1;pair 3 1", 4, 37);
+        Check.dueError("class 5 0;ring 0 1 2;pair 0 1;pair 1 1", 4, 35);
+        Check.dueError("class 5 1;ring 0 1 2;pair 0 1", 5, 28);
+        Check.dueError("class 5 1;kind 0;ring 0 1 2;pair 0 1", 0, -1);
+        Check.dueError("class 5 2;kind 0;ring 0 1 2;pair 0 1", 5, 35);
+        Check.dueError("class 5 2;kind 0 1;ring 0 1 2;pair 0 1", 0, -1);
     }
 
     private static void whatLinesTell() {
@@ -216,7 +283,7 @@ public final class InputTest {
         Check.due("none is lost", x.count(10), 0);
         Check.due("allowed again at the end", Check.pairs(Check.loaded("class 2 2;friend 0 1;pair 0 1;kind 0;kind 1")),
             "0-1");
-        dueError("class 4 2;ring 0 1 2 3;pair 0 1;kind 0;pair 1 2", 4, 44);
+        Check.dueError("class 4 2;ring 0 1 2 3;pair 0 1;kind 0;pair 1 2", 4, 44);
         Check.due("RULE 0", Check.pairs(Check.loaded("class 2 0;friend 0 1;pair 0 1;kind 0")), "0-1");
         Check.due("RULE 1", Check.pairs(Check.loaded("class 2 1;kind 0;friend 0 1;pair 0 1;kind 1")), ".");
     }

@@ -8,6 +8,8 @@ public final class MostTest {
         triangle();
         star();
         path();
+        barrierOfTwo();
+        allThreeSets();
         onePupil();
         allFriends();
         rules();
@@ -78,6 +80,27 @@ public final class MostTest {
         Check.due("isProof of one and of two", x.isProof(2) && x.isProof(5) && !x.isProof(3), true);
     }
 
+    private static void barrierOfTwo() {
+        PupilPairs x = Check.loaded("class 8 0;friend 0 2 3 4;friend 1 4 5 6;friend 7 0 1");
+        Check.due("most", x.most() + " " + x.deficit(), "2 4");
+        Check.due("loose, barrier, rest", x.loose() + " " + x.barrier() + " " + x.rest(), "252 3 0");
+        Check.due("odd sets", x.oddSets() + " " + x.oddSet(0) + " " + x.oddSet(5) + " " + x.oddSet(6), "6 4 128 -1");
+        Check.due("proof", x.proof(), 2);
+        Check.due("one of both does not prove", x.isProof(1) || x.isProof(2), false);
+    }
+
+    private static void allThreeSets() {
+        PupilPairs x = Check.loaded("class 6 0;friend 0 1 2;friend 3 4");
+        Check.due("loose, barrier, rest", x.loose() + " " + x.barrier() + " " + x.rest(), "38 1 24");
+        Check.due("odd sets", x.oddSets() + " " + x.oddSet(0) + " " + x.oddSet(1) + " " + x.oddSet(2), "3 2 4 32");
+        Check.due("no such index", x.oddSet(3) + " " + x.oddSet(Integer.MAX_VALUE) + " " + x.oddSet(Integer.MIN_VALUE),
+            "-1 -1 -1");
+        Check.due("proof", x.proof() + " " + x.most() + " " + x.deficit(), "2 2 2");
+        Check.due("a part that is even does not count", x.odds(0) + " " + x.odds(1) + " " + x.odds(8), "2 3 3");
+        PupilPairs y = Check.loaded("class 7 0;ring 1 5 6;friend 2 3;friend 2 4;friend 3 4;friend 0 6 3");
+        Check.due("odd sets by their smallest pupils", y.oddSet(0) + " " + y.oddSet(1) + " " + y.barrier(), "98 28 1");
+    }
+
     private static void onePupil() {
         PupilPairs x = Check.loaded("class 1 0");
         Check.due("most", x.most(), 0);
@@ -87,26 +110,27 @@ public final class MostTest {
         Check.due("proof", x.proof() + " " + x.smallestProof(), "0 0");
         Check.due("pairings", x.pairings(), 1L);
         Check.due("firstMate", x.firstMate(0), -1);
-    }
-
-    private static String allFriendsText(int pupils) {
-        StringBuilder text = new StringBuilder("class " + pupils + " 0");
-        for (int p = 0; p + 1 < pupils; p++) {
-            text.append(";friend ").append(p);
-            for (int q = p + 1; q < pupils; q++) {
-                text.append(' ').append(q);
-            }
-        }
-        return text.toString();
+        Check.due("odds", x.odds(0) + " " + x.odds(1), "1 0");
+        Check.due("isProof", x.isProof(0) + " " + x.isProof(1), "true false");
+        Check.due("in none", x.inSome(0, 0) || x.inAll(0, 0), false);
+        Check.dueThrows("odds(2)", Check.ARGUMENT, () -> x.odds(2));
+        Check.due("isMost with no pairs to make", Check.loaded("class 14 0").isMost(), true);
+        Check.due("no pairs are one pairing", Check.loaded("class 14 0").pairings(), 1L);
     }
 
     private static void allFriends() {
-        PupilPairs x = Check.loaded(allFriendsText(14));
+        PupilPairs x = Check.loaded(Situations.ALL_FRIENDS);
         Check.due("most of 14", x.most(), 7);
         Check.due("pairings of 14", x.pairings(), 135135L);
         Check.due("loose of 14", x.loose(), 0);
+        Check.due("rest of 14", x.rest() + " " + x.deficit() + " " + x.proof(), "16383 0 7");
+        Check.due("odds of 14", x.odds(0) + " " + x.odds(1) + " " + x.odds(16383), "0 1 0");
+        Check.due("isProof of all but two", x.isProof(16383 - 3) + " " + x.isProof(1), "false true");
+        Check.dueThrows("odds of a 15th", Check.ARGUMENT, () -> x.odds(16384));
+        Check.dueThrows("isProof of a 15th", Check.ARGUMENT, () -> x.isProof(16384));
+        Check.due("in some, in all", x.inSome(0, 13) + " " + x.inAll(0, 13), "true false");
         Check.due("firstMate of 12", x.firstMate(12), 13);
-        PupilPairs y = Check.loaded(allFriendsText(13));
+        PupilPairs y = Check.loaded(Situations.allFriends(13));
         Check.due("most of 13", y.most(), 6);
         Check.due("pairings of 13", y.pairings(), 135135L);
         Check.due("loose of 13", y.loose(), (1 << 13) - 1);

@@ -5,6 +5,7 @@ public final class PupilsTest {
         numbersOfPupils();
         friendsAndFriendAt();
         whyNot();
+        smallestAndGreatest();
         Check.finish();
     }
 
@@ -36,6 +37,22 @@ public final class PupilsTest {
         Check.due("a pair that is lost", y.count(10), 1);
     }
 
+    private static void smallestAndGreatest() {
+        PupilPairs alone = Check.loaded("class 1 0;kind 0");
+        int[] dueAlone = {1, 0, 0, 0, 1, 0, 1, 0, 0, 0, 0};
+        // the k-th search makes a blossom with each of the k - 1 pairs before: 1 + 2 + .. + 6 of them
+        PupilPairs all = Check.loaded(Situations.ALL_FRIENDS);
+        all.fill();
+        int[] dueOfAll = {14, 91, 91, 7, 0, 0, 0, 7, 0, 21, 0};
+        for (int what = 0; what <= 10; what++) {
+            Check.due("one alone, count(" + what + ")", alone.count(what), dueAlone[what]);
+            Check.due("14 friends, count(" + what + ")", all.count(what), dueOfAll[what]);
+        }
+        Check.due("the greatest pupil", all.pupil(13, 1) + " " + all.pupil(13, 2) + " " + all.pupil(13, 3), "13 13 12");
+        Check.due("one alone", alone.pupil(0, 0) + " " + alone.pupil(0, 1) + " " + alone.pupil(0, 3), "1 0 -1");
+        Check.due("no friend of itself", alone.friends(0, 0) || all.friends(13, 13), false);
+    }
+
     private static void numbersOfPupils() {
         PupilPairs x = school();
         int[] due = {1, 3, 2, 3};
@@ -65,6 +82,12 @@ public final class PupilsTest {
         Check.due("friendAt(0, -1)", x.friendAt(0, -1), -1);
         Check.due("friendAt, most", x.friendAt(0, Integer.MAX_VALUE), -1);
         Check.dueThrows("friendAt(6, 0)", Check.INDEX, () -> x.friendAt(6, 0));
+        Check.due("friendAt, least", x.friendAt(0, Integer.MIN_VALUE), -1);
+        PupilPairs all = Check.loaded(Situations.ALL_FRIENDS);
+        Check.due("the last of 13 friends", all.friendAt(0, 12) + " " + all.friendAt(13, 12), "13 12");
+        Check.due("behind the last one", all.friendAt(0, 13) + " " + all.friendAt(13, 13), "-1 -1");
+        Check.due("a pupil passes itself", all.friendAt(5, 4) + " " + all.friendAt(5, 5), "4 6");
+        Check.due("one alone has no friend", Check.loaded("class 1 0").friendAt(0, 0), -1);
         Check.due("friendAt by RULE 2", Check.loaded("class 3 2;kind 0;friend 2 0 1").friendAt(2, 0), 1);
     }
 
@@ -78,6 +101,11 @@ public final class PupilsTest {
         Check.due("b has a mate", x.whyNot(1, 0), 5);
         Check.due("both have mates", x.whyNot(0, 3), 4);
         Check.due("they can", x.whyNot(4, 5), 0);
+        x.part(0);
+        Check.due("they can, behind part", x.whyNot(0, 3) + " " + x.whyNot(3, 0), "0 0");
+        PupilPairs same = Check.loaded("class 3 2;kind 0;ring 0 1 2");
+        Check.due("RULE 2", same.whyNot(0, 1) + " " + same.whyNot(1, 2), "3 0");
+        Check.due("one alone", Check.loaded("class 1 0").whyNot(0, 0), 1);
         Check.dueThrows("whyNot(0, 6)", Check.INDEX, () -> x.whyNot(0, 6));
         Check.dueThrows("whyNot(-1, 0)", Check.INDEX, () -> x.whyNot(-1, 0));
     }

@@ -1,7 +1,6 @@
 import java.lang.reflect.InvocationTargetException;
 import java.lang.reflect.Method;
 import java.lang.reflect.Modifier;
-import java.nio.charset.StandardCharsets;
 import java.util.ArrayList;
 import java.util.Comparator;
 import java.util.List;
@@ -174,21 +173,13 @@ public final class RandomRunsTest {
     }
 
     private void load() throws Exception {
-        byte[] text = text().getBytes(StandardCharsets.ISO_8859_1);
+        String text = text();
         Method append = PupilPairs.class.getMethod("append", int.class, int.class, int.class, int.class, int.class);
-        byte[] padded = java.util.Arrays.copyOf(text, (text.length + 19) / 20 * 20);
-        for (int at = 0; at < padded.length; at += 20) {
-            Object[] words = new Object[5];
-            for (int w = 0; w < 5; w++) {
-                int word = 0;
-                for (int b = 0; b < 4; b++) {
-                    word = word << 8 | padded[at + 4 * w + b] & 255;
-                }
-                words[w] = word;
-            }
-            ask(append, words);
+        int[] words = Check.words(text);
+        for (int i = 0; i < words.length; i += 5) {
+            ask(append, words[i], words[i + 1], words[i + 2], words[i + 3], words[i + 4]);
         }
-        int n = random.nextInt(30) == 0 ? random.nextInt(520) - 10 : random.nextInt(30) == 0 ? 0 : text.length;
+        int n = random.nextInt(30) == 0 ? random.nextInt(520) - 10 : random.nextInt(30) == 0 ? 0 : text.length();
         ask(PupilPairs.class.getMethod("load", int.class), n);
         ask(PupilPairs.class.getMethod("parseError"));
         ask(PupilPairs.class.getMethod("errorPosition"));

@@ -1,7 +1,6 @@
 /** Promises 12 to 22, and sections 2 and 3: a search with a blossom, told step by step as it is made by hand. */
 public final class SearchTest {
-    private static final String TEXT = "class 10 0;friend 0 1;friend 2 1 3 5;friend 4 3 6;friend 6 5 7;friend 8 7 9"
-        + ";pair 1 2;pair 3 4;pair 5 6;pair 7 8";
+    private static final String TEXT = Situations.BLOSSOM;
 
     public static void main(String[] args) {
         noSearch();
@@ -12,7 +11,12 @@ public final class SearchTest {
         waysOfBlossom();
         found();
         failed();
+        nextAtTheEnd();
         blossomInBlossom();
+        blossomOfLongRow();
+        blossomOfRoot();
+        anotherSearch();
+        oneAlone();
         rules();
         Check.finish();
     }
@@ -190,7 +194,23 @@ public final class SearchTest {
         PupilPairs x = Check.loaded("class 7 0;ring 0 1 2;friend 1 3;friend 3 4;friend 4 5;friend 5 6;friend 6 2"
             + ";pair 1 2;pair 3 4;pair 5 6");
         x.seek(0);
-        Check.due("steps up to the end", x.run() > 0 && x.search(0) == 3, true);
+        int[] due = {1, 2, 5, 0, 0, 1, 5, 0, 0, 1, 5};
+        for (int i = 0; i < due.length; i++) {
+            Check.due("step " + (i + 1), x.step(), due[i]);
+        }
+        Check.due("a blossom of three", x.blossoms() + " " + x.count(9) + " " + Check.groups(x), "1 1 0+1+2o 3i 4o 5o 6i");
+        Check.due("step 12", x.step(), 2);
+        Check.due("both blossoms were made", x.search(3) + " " + x.count(9), "2 2");
+        Check.due("the queue", Check.queue(x), "5 4 3 6");
+        String[] ways = {"0", "1>2>0", "2>1>0", "3>4>5>6>2>1>0", "4>3>1>2>0", "5>6>2>1>0", "6>5>4>3>1>2>0"};
+        for (int p = 0; p < 7; p++) {
+            Check.due("the way of " + p, Check.way(x, p), ways[p]);
+        }
+        Check.due("the BRIDGEs of the second", x.bridge(6, false) + " " + x.bridge(6, true) + " " + x.bridge(3, false)
+            + " " + x.bridge(3, true), "5 4 4 5");
+        Check.due("the BRIDGE of the first stays", x.bridge(1, false) + " " + x.bridge(1, true), "2 0");
+        Check.due("steps up to the end", x.run() + " " + x.search(0) + " " + x.search(2), "11 3 23");
+        Check.due("both blossoms are counted once", x.count(9), 2);
         Check.due("two blossoms", x.search(3), 2);
         Check.due("one of them is left", x.blossoms(), 1);
         Check.due("all are in it", x.group(4), 127);
@@ -213,6 +233,96 @@ public final class SearchTest {
             Check.due("friends on the way", x.friends(a, b), true);
             Check.due("a pair on the way", x.pupil(a, 3) == b, i % 2 == 0);
         }
+    }
+
+    /** ROOT 5; the row of 0 has two groups below the one of 3, where it meets the row of 7. */
+    private static void blossomOfLongRow() {
+        PupilPairs x = Check.loaded("class 9 0;friend 5 4;friend 3 4 1 2;friend 8 1 6;friend 7 2 0;friend 0 6;pair 4 3"
+            + ";pair 1 8;pair 2 7;pair 6 0");
+        x.seek(5);
+        int[] due = {1, 5, 1, 1, 0, 5, 0, 1, 5, 2};
+        for (int i = 0; i < due.length; i++) {
+            Check.due("step " + (i + 1), x.step(), due[i]);
+        }
+        Check.due("all groups of both rows, up to that of 3", Check.groups(x), "0+1+2+3+6+7+8o 4i 5o");
+        Check.due("BASE", x.base(0) + " " + x.base(8) + " " + x.base(3), "3 3 3");
+        Check.due("by rising numbers", Check.queue(x), "7 0 1 2 6");
+        Check.due("near ends", x.bridge(2, false) + " " + x.bridge(1, false) + " " + x.bridge(6, false), "7 0 0");
+        Check.due("far ends", x.bridge(2, true) + " " + x.bridge(1, true) + " " + x.bridge(6, true), "0 7 7");
+        Check.due("outer before, no BRIDGE", x.bridge(0, false) + " " + x.bridge(8, true) + " " + x.bridge(3, true),
+            "-1 -1 -1");
+        Check.due("the way of 1", Check.way(x, 1), "1>8>6>0>7>2>3>4>5");
+        Check.due("the way of 2", Check.way(x, 2), "2>7>0>6>8>1>3>4>5");
+        Check.due("the way of 6", Check.way(x, 6), "6>0>7>2>3>4>5");
+        Check.due("wayAt, the last", x.wayAt(1, 8) + " " + x.wayAt(1, 9), "5 -1");
+        Check.due("it fails", x.run() + " " + x.search(0), "14 3");
+        Check.due("the ways stay", Check.way(x, 2) + " " + x.wayLength(4), "2>7>0>6>8>1>3>4>5 0");
+    }
+
+    /** ROOT 4; the rows of 0 and 2 meet in ROOT's group, and 0 is no base of both. */
+    private static void blossomOfRoot() {
+        PupilPairs x = Check.loaded("class 5 0;friend 4 1 3;friend 0 1 2;friend 2 3;pair 0 1;pair 2 3");
+        x.seek(4);
+        int[] due = {1, 1, 5, 0, 2};
+        for (int i = 0; i < due.length; i++) {
+            Check.due("step " + (i + 1), x.step(), due[i]);
+        }
+        Check.due("one group", Check.groups(x) + " " + x.group(0) + " " + x.base(0), "0+1+2+3+4o 31 4");
+        Check.due("the queue", Check.queue(x), "0 2 1 3");
+        Check.due("BRIDGEs", x.bridge(1, false) + " " + x.bridge(1, true) + " " + x.bridge(3, false) + " "
+            + x.bridge(3, true), "0 2 2 0");
+        Check.due("the ways", Check.way(x, 1) + " " + Check.way(x, 3), "1>0>2>3>4 3>2>0>1>4");
+        Check.due("a group", x.search(7) + " " + x.blossoms(), "1 1");
+    }
+
+    /** A search begins anew: nothing of the search before is told in it, and the sums go on. */
+    private static void anotherSearch() {
+        PupilPairs x = behindSteps(9);
+        x.seek(9);
+        Check.due("at its begin", numbers(x), "1 9 0 0 1 0 1 10");
+        Check.due("each pupil is a group", x.group(3) + " " + x.base(3) + " " + x.label(2), "8 3 0");
+        Check.due("no LINK, no BRIDGE", x.link(1) + " " + x.bridge(3, false) + " " + x.bridge(3, true), "-1 -1 -1");
+        Check.due("no ways but that of ROOT", Check.way(x, 2) + " " + Check.way(x, 9), ". 9");
+        Check.due("the first friend", x.next(), 908);
+        x.step();
+        Check.due("behind a step", Check.groups(x) + " " + Check.queue(x), "7o 8i 9o 9 7");
+        Check.due("the blossom of before is counted", x.count(9), 1);
+        x.seek(0);
+        x.run();
+        Check.due("and the one of the next search", x.count(9) + " " + x.search(3), "2 1");
+        PupilPairs twice = Check.loaded("class 4 0;ring 0 1 2;pair 1 2");
+        for (int time = 1; time <= 2; time++) {
+            twice.seek(0);
+            Check.due("no blossom in it yet", twice.search(3), 0);
+            twice.step();
+            Check.due("the blossom", twice.step(), 2);
+            Check.due("one in it, and all so far", twice.search(3) + " " + twice.count(9), "1 " + time);
+            twice.run();
+            Check.due("counted once", twice.search(3) + " " + twice.count(9), "1 " + time);
+        }
+    }
+
+    private static void nextAtTheEnd() {
+        PupilPairs x = Check.loaded("class 4 0;friend 1 0 2 3;pair 1 2");
+        x.seek(0);
+        x.run();
+        Check.due("a search that has failed asks no more", x.next(), -1);
+        Check.due("queueAt of an empty queue", x.queueAt(0), -1);
+        Check.dueThrows("step", Check.ARGUMENT, x::step);
+        Check.dueThrows("run", Check.ARGUMENT, x::run);
+        PupilPairs y = Check.loaded(Situations.ALL_FRIENDS);
+        y.seek(13);
+        Check.due("by two numbers", y.next(), 1300);
+        Check.due("all is one step", y.step() + " " + y.next() + " " + Check.pairs(y), "3 -1 0-13");
+    }
+
+    private static void oneAlone() {
+        PupilPairs x = Check.loaded("class 1 2");
+        Check.due("no friends", x.seek(0), 0);
+        Check.due("at first", numbers(x), "1 0 0 0 1 0 1 1");
+        Check.due("run", x.run(), 1);
+        Check.due("failed", numbers(x), "3 0 1 0 1 0 0 1");
+        Check.due("it is still told", Check.groups(x) + " " + Check.way(x, 0) + " " + x.base(0), "0o 0 0");
     }
 
     private static void rules() {

@@ -4,6 +4,8 @@ public final class TextsTest {
         pairs();
         groups();
         ways();
+        longestTexts();
+        endedSearches();
         textStays();
         wrongInputs();
         Check.finish();
@@ -54,6 +56,36 @@ public final class TextsTest {
         Check.due("one side", Check.way(x, 1), "1>0>12");
         Check.due("the other side", Check.way(x, 0), "0>1>2>3>4>5>6>7>8>9>10>11>12");
         Check.due("its length", x.writeWay(0), 28);
+    }
+
+    private static void longestTexts() {
+        PupilPairs x = Check.loaded("class 14 0;friend 13 0 2 4 6 8 10;friend 0 1;friend 2 3;friend 4 5;friend 6 7"
+            + ";friend 8 9;friend 10 11;pair 0 1;pair 2 3;pair 4 5;pair 6 7;pair 8 9;pair 10 11");
+        x.seek(13);
+        Check.due("run", x.run() + " " + x.search(0), "19 3");
+        Check.due("13 groups", Check.groups(x), "0i 1o 2i 3o 4i 5o 6i 7o 8i 9o 10i 11o 13o");
+        Check.due("6 pairs", Check.pairs(x), "0-1 2-3 4-5 6-7 8-9 10-11");
+        x.befriend(12, 13, true);
+        x.pair(12, 13);
+        Check.due("7 pairs", Check.pairs(x), "0-1 2-3 4-5 6-7 8-9 10-11 12-13");
+        Check.due("their length", x.writePairs(), 31);
+        Check.due("the last byte", x.textByte(30), 51);
+        Check.dueThrows("behind it", Check.INDEX, () -> x.textByte(31));
+    }
+
+    private static void endedSearches() {
+        PupilPairs x = Check.loaded(Situations.SMALL);
+        x.seek(0);
+        x.run();
+        Check.due("groups of a search that has found", Check.groups(x), "0+1+2o");
+        Check.due("no ways of it", Check.way(x, 0), ".");
+        Check.due("the pairs it made", Check.pairs(x), "0-1 2-3");
+        x.seek(4);
+        x.run();
+        Check.due("groups of a search that has failed", Check.groups(x), "0+1+2o 3i 4o");
+        Check.due("ways of it", Check.way(x, 2) + " " + Check.way(x, 3), "2>3>4 .");
+        x.setRule(0);
+        Check.due("groups and ways of none", Check.groups(x) + " " + Check.way(x, 4), ". .");
     }
 
     private static void textStays() {

@@ -8,6 +8,9 @@ public final class WhatIfTest {
         byRules();
         helps();
         trials();
+        trialsAlone();
+        oneAlone();
+        all14();
         otherNumbers();
         nothingIsChanged();
         wrongInputs();
@@ -69,6 +72,49 @@ public final class WhatIfTest {
         x.seek(4);
         Check.due("as long as told", x.run(), 12);
         Check.due("behind a search", x.wouldEnd(4) + " " + x.stepsTo(4), "3 12");
+    }
+
+    /** Each of both asks by itself: none needs the other one before. */
+    private static void trialsAlone() {
+        PupilPairs x = Check.loaded("class 5 0;ring 0 1 2;friend 3 2 4;pair 1 2");
+        Check.due("steps from 0", x.stepsTo(0), 6);
+        Check.due("steps from 3", x.stepsTo(3), 2);
+        Check.due("steps from 4", x.stepsTo(4), 1);
+        Check.due("a mate", x.stepsTo(1), -1);
+        Check.due("behind that", x.stepsTo(0), 6);
+        x.seek(0);
+        x.step();
+        Check.due("while a search goes on", x.stepsTo(4) + " " + x.wouldEnd(0) + " " + x.stepsTo(0), "1 2 6");
+        Check.due("that goes on", x.search(0) + " " + x.search(2), "1 1");
+    }
+
+    private static void oneAlone() {
+        PupilPairs x = Check.loaded("class 1 0");
+        Check.due("without it", x.mostWithout(0), 0);
+        Check.due("a friend of itself", x.mostIf(0, 0), 0);
+        Check.due("by any RULE", x.mostBy(0) + x.mostBy(1) + x.mostBy(2) + x.bestRule(), 0);
+        Check.due("no two pupils", x.helps(), 0);
+        Check.due("it would fail", x.wouldEnd(0) + " " + x.stepsTo(0), "3 1");
+        Check.due("numbers", x.meanFriends() + " " + x.pairedShare(), "0.0 0.0");
+    }
+
+    private static void all14() {
+        PupilPairs x = Check.loaded(Situations.ALL_FRIENDS);
+        Check.due("without one", x.mostWithout(0) + " " + x.mostWithout(13), "6 6");
+        Check.due("two no friends any more", x.mostIf(0, 13) + " " + x.mostIf(13, 0) + " " + x.mostIf(13, 13), "7 7 7");
+        Check.due("all are friends", x.helps(), 0);
+        Check.due("it would find", x.wouldEnd(13) + " " + x.stepsTo(13), "2 1");
+        Check.due("numbers", x.meanFriends() + " " + x.pairedShare(), "13.0 0.0");
+        x.fill();
+        Check.due("all are paired", x.pairedShare() + " " + x.wouldEnd(13), "1.0 -1");
+        Check.due("by each RULE", x.mostBy(0) + " " + x.mostBy(1) + " " + x.mostBy(2), "7 0 7");
+        Check.due("in turn", x.mostBy(1) + " " + x.most() + " " + x.pairings() + " " + x.bestRule(), "0 7 135135 0");
+        Check.load(x, "class 14 0");
+        Check.due("the class before is forgotten", x.most() + " " + x.pairings(), "0 1");
+        PupilPairs none = Check.loaded("class 14 0");
+        Check.due("each friendship helps", none.helps(), 91);
+        PupilPairs most13 = Check.loaded(Situations.allFriends(13));
+        Check.due("a share by float", most13.fill() + " " + most13.pairedShare(), "6 " + 12f / 13f);
     }
 
     private static void otherNumbers() {
