@@ -946,7 +946,7 @@ public final class PupilPairs {
             queueEnd = 0;
             askedFrom = 0;
             for (int q = 0; q < MAX_PUPILS; q++) {
-                bases[q] = q;
+                put(bases, q, q);
             }
             fillRow(links, NONE);
             fillRow(nearEnds, NONE);
@@ -993,7 +993,7 @@ public final class PupilPairs {
         int groupWithBase(int b) {
             int group = 0;
             for (int q = 0; q < MAX_PUPILS; q++) {
-                if (bases[q] == b) {
+                if (baseOf(q) == b) {
                     group |= bit(q);
                 }
             }
@@ -1083,12 +1083,12 @@ public final class PupilPairs {
             int members = rowMembers(pupils, v, meeting) | rowMembers(pupils, w, meeting) | mates;
             for (int p = 0; p < MAX_PUPILS; p++) {
                 if (has(members, p)) {
-                    bases[p] = meeting;
+                    put(bases, p, meeting);
                 }
                 if (has(mates, p)) {
                     becomeOuter(p);
-                    ways.addBack(p, nearEnds[p]);
-                    ways.addWayOf(p, farEnds[p]);
+                    ways.addBack(p, at(nearEnds, p));
+                    ways.addWayOf(p, at(farEnds, p));
                 }
             }
         }
@@ -1220,8 +1220,8 @@ public final class PupilPairs {
             all = pupils.everybody();
             for (int p = 0; p < MAX_PUPILS; p++) {
                 int row = pupils.allowedSetBy(rule, p);
-                isOther = isOther || rows[p] != row;
-                rows[p] = row;
+                isOther = isOther || rowOf(p) != row;
+                put(rows, p, row);
             }
             if (isOther) {
                 stamp++;
@@ -1260,8 +1260,8 @@ public final class PupilPairs {
                 return 1;
             }
             int place = (set & (1 << UNKEPT) - 1) == 0 ? set >> UNKEPT : NONE;
-            if (place >= 0 && place < table.values.length && table.stamps[place] == table.stamp) {
-                return table.values[place];
+            if (at(table.stamps, place) == table.stamp) {
+                return at(table.values, place);
             }
             int p = smallestOf(set);
             int others = set & ~bit(p);
